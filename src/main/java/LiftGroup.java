@@ -623,10 +623,6 @@ public final class LiftGroup {
       car = other.car;
       rides = other.rides;
     }
-
-    int stop() {
-      return rides ? destination : start;
-    }
   }
 
   /** The count of all trips, and the latest of them in rows that are written round and round. */
@@ -699,7 +695,7 @@ public final class LiftGroup {
     /** The shortest command takes five characters with its semicolon, and one more may be begun behind the last. */
     static final int MOST_COMMANDS = SCRIPT_LENGTH / 5 + 1;
 
-    final StringBuilder text = new StringBuilder(SCRIPT_LENGTH);
+    final StringBuilder text = new StringBuilder();
     final int[] kinds = new int[MOST_COMMANDS];
     final int[][] arguments = new int[MOST_COMMANDS][MOST_ARGUMENTS];
     int commandCount = 0;
@@ -1080,8 +1076,9 @@ public final class LiftGroup {
     int stopsOf(int car) {
       int stops = 0;
       for (int i = 0; i < passengerCount; i++) {
-        if (passengers[i].car == car) {
-          stops |= 1 << passengers[i].stop();
+        Passenger p = passengers[i];
+        if (p.car == car) {
+          stops |= 1 << (p.rides ? p.destination : p.start);
         }
       }
       return stops;
