@@ -2,8 +2,6 @@ import java.util.NoSuchElementException;
 
 /** Promises 9 to 21: what is told of the time and the cars. */
 public final class CarsTest {
-  private static final int[] NO_CARS = {-1, 3, Integer.MIN_VALUE, Integer.MAX_VALUE};
-
   private CarsTest() {
   }
 
@@ -108,7 +106,7 @@ public final class CarsTest {
   private static void refusals() {
     Class<IndexOutOfBoundsException> index = IndexOutOfBoundsException.class;
     Class<IllegalArgumentException> argument = IllegalArgumentException.class;
-    for (int car : NO_CARS) {
+    for (int car : Scenes.NO_CARS) {
       Checks.refused("floor", index, CarsTest::busy, g -> g.floor(car));
       Checks.refused("direction", index, CarsTest::busy, g -> g.direction(car));
       Checks.refused("capacity", index, CarsTest::busy, g -> g.capacity(car));

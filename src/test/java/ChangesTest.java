@@ -4,8 +4,6 @@ public final class ChangesTest {
   private static final Class<IllegalArgumentException> ARGUMENT = IllegalArgumentException.class;
   private static final Class<IllegalStateException> STATE = IllegalStateException.class;
   private static final Class<UnsupportedOperationException> UNSUPPORTED = UnsupportedOperationException.class;
-  private static final int[] NO_CARS = {-1, 3, Integer.MIN_VALUE, Integer.MAX_VALUE};
-  private static final int[] NO_FLOORS = {-1, 10, Integer.MIN_VALUE, Integer.MAX_VALUE};
 
   private ChangesTest() {
   }
@@ -22,21 +20,8 @@ public final class ChangesTest {
     Checks.end();
   }
 
-  /** Twelve passengers, all waiting for car 0. */
-  private static LiftGroup full() {
-    LiftGroup group = new LiftGroup();
-    for (int i = 0; i < 12; i++) {
-      group.addPassenger(1, 2, 10);
-    }
-    return group;
-  }
-
-  /** The passenger of 80 kilograms is in car 0, on floor 0, with doors that stay open for 2 steps. */
   private static LiftGroup boarded() {
-    LiftGroup group = new LiftGroup();
-    group.addPassenger(0, 5, 80);
-    group.advance(1);
-    return group;
+    return Scenes.boarded(80);
   }
 
   private static LiftGroup oneStopped() {
@@ -97,18 +82,18 @@ public final class ChangesTest {
   }
 
   private static void addPassengerRefused() {
-    for (int floor : NO_FLOORS) {
+    for (int floor : Scenes.NO_FLOORS) {
       Checks.refused("start " + floor, ARGUMENT, LiftGroup::new, g -> g.addPassenger(floor, 3, 80));
       Checks.refused("destination " + floor, ARGUMENT, LiftGroup::new, g -> g.addPassenger(3, floor, 80));
-      Checks.refused("both and full", ARGUMENT, ChangesTest::full, g -> g.addPassenger(floor, floor, 80));
+      Checks.refused("both and full", ARGUMENT, Scenes::full, g -> g.addPassenger(floor, floor, 80));
     }
     Checks.refused("equal floors", ARGUMENT, LiftGroup::new, g -> g.addPassenger(4, 4, 80));
     for (int weight : new int[] {9, 151, 0, -80, Integer.MIN_VALUE, Integer.MAX_VALUE}) {
       Checks.refused("weight " + weight, ARGUMENT, LiftGroup::new, g -> g.addPassenger(3, 4, weight));
-      Checks.refused("weight when full " + weight, ARGUMENT, ChangesTest::full, g -> g.addPassenger(3, 4, weight));
+      Checks.refused("weight when full " + weight, ARGUMENT, Scenes::full, g -> g.addPassenger(3, 4, weight));
     }
-    Checks.refused("a thirteenth passenger", STATE, ChangesTest::full, g -> g.addPassenger(3, 4, 80));
-    Checks.same("twelve passengers", full().passengerCount(), 12);
+    Checks.refused("a thirteenth passenger", STATE, Scenes::full, g -> g.addPassenger(3, 4, 80));
+    Checks.same("twelve passengers", Scenes.full().passengerCount(), 12);
   }
 
   private static void removePassenger() {
@@ -144,7 +129,7 @@ public final class ChangesTest {
     group.advance(1);
     Checks.same("closed after one step", group.doorSteps(0), 0);
     Checks.same("and not moved yet", group.floor(0), 0);
-    for (int car : NO_CARS) {
+    for (int car : Scenes.NO_CARS) {
       Checks.refused("car " + car, INDEX, ChangesTest::boarded, g -> g.holdDoors(car, 0));
     }
     for (int steps : new int[] {0, 4, -1, Integer.MIN_VALUE, Integer.MAX_VALUE}) {
@@ -173,7 +158,7 @@ public final class ChangesTest {
     Checks.same("not even with its doors", group.doorSteps(0), 2);
     Checks.same("in service after the call", group.startCar(1), 2);
     Checks.same("in service after the call", group.startCar(0), 3);
-    for (int car : NO_CARS) {
+    for (int car : Scenes.NO_CARS) {
       Checks.refused("stop car " + car, INDEX, ChangesTest::oneStopped, g -> g.stopCar(car));
       Checks.refused("start car " + car, INDEX, ChangesTest::oneStopped, g -> g.startCar(car));
     }
@@ -187,7 +172,7 @@ public final class ChangesTest {
     Checks.same("the one before", group.setCapacity(2, 900), 100);
     Checks.same("capacity", group.capacity(2), 900);
     Checks.same("another car's", group.capacity(1), 400);
-    for (int car : NO_CARS) {
+    for (int car : Scenes.NO_CARS) {
       Checks.refused("car " + car, INDEX, LiftGroup::new, g -> g.setCapacity(car, 99));
     }
     for (int kilograms : new int[] {99, 901, 0, -400, Integer.MIN_VALUE, Integer.MAX_VALUE}) {

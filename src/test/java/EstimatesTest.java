@@ -141,9 +141,7 @@ public final class EstimatesTest {
   }
 
   private static LiftGroup stuck() {
-    LiftGroup group = new LiftGroup();
-    group.addPassenger(0, 5, 80);
-    group.advance(1);
+    LiftGroup group = Scenes.boarded(80);
     group.stopCar(0);
     return group;
   }
@@ -153,9 +151,7 @@ public final class EstimatesTest {
    * at step 7 + 12 * k. Some of the steps have passed already.
    */
   private static LiftGroup queue(int passed) {
-    LiftGroup group = new LiftGroup();
-    group.stopCar(1);
-    group.stopCar(2);
+    LiftGroup group = Scenes.oneCar();
     group.setCapacity(0, 100);
     for (int i = 0; i < 12; i++) {
       group.addPassenger(0, 3, 60);
@@ -185,13 +181,13 @@ public final class EstimatesTest {
   }
 
   private static void refusals() {
-    for (int car : new int[] {-1, 3, Integer.MIN_VALUE, Integer.MAX_VALUE}) {
+    for (int car : Scenes.NO_CARS) {
       Checks.refused("estimate", INDEX, LiftGroup::new, g -> g.estimate(car, 0));
       Checks.refused("estimate, first the car", INDEX, LiftGroup::new, g -> g.estimate(car, -1));
       Checks.refused("estimateByWalk", INDEX, LiftGroup::new, g -> g.estimateByWalk(car, 0));
       Checks.refused("estimateByWalk, first the car", INDEX, LiftGroup::new, g -> g.estimateByWalk(car, 10));
     }
-    for (int floor : new int[] {-1, 10, Integer.MIN_VALUE, Integer.MAX_VALUE}) {
+    for (int floor : Scenes.NO_FLOORS) {
       Checks.refused("estimate", ARGUMENT, LiftGroup::new, g -> g.estimate(0, floor));
       Checks.refused("estimateByWalk", ARGUMENT, LiftGroup::new, g -> g.estimateByWalk(0, floor));
       Checks.refused("bestCar", ARGUMENT, LiftGroup::new, g -> g.bestCar(floor, 80));

@@ -50,7 +50,7 @@ public final class OutputTest {
     }
     full.advance(1);
     shows(full, 0, "0@0-12/840o");
-    for (int car : new int[] {-1, 3, Integer.MIN_VALUE, Integer.MAX_VALUE}) {
+    for (int car : Scenes.NO_CARS) {
       Checks.refused("renderCar", INDEX, LiftGroup::new, g -> g.renderCar(car));
     }
   }

@@ -76,7 +76,7 @@ public final class PassengersTest {
       Checks.refused("carOf", index, PassengersTest::some, g -> g.carOf(passenger));
     }
     Checks.refused("carOf no car", NoSuchElementException.class, PassengersTest::some, g -> g.carOf(2));
-    for (int floor : new int[] {-1, 10, Integer.MIN_VALUE, Integer.MAX_VALUE}) {
+    for (int floor : Scenes.NO_FLOORS) {
       Checks.refused("waitingAt", IllegalArgumentException.class, PassengersTest::some, g -> g.waitingAt(floor));
     }
   }

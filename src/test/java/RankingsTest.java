@@ -199,7 +199,7 @@ public final class RankingsTest {
     Checks.same("another car", group.loadShare(1), 0.0f);
     group.setCapacity(0, 100);
     Checks.same("another share", group.loadShare(0), 0.7f);
-    for (int car : new int[] {-1, 3, Integer.MIN_VALUE, Integer.MAX_VALUE}) {
+    for (int car : Scenes.NO_CARS) {
       Checks.refused("loadShare", IndexOutOfBoundsException.class, LiftGroup::new, g -> g.loadShare(car));
     }
   }

@@ -5,7 +5,6 @@ public final class ScriptTest {
   private static final Class<IllegalArgumentException> ARGUMENT = IllegalArgumentException.class;
   private static final Class<IllegalStateException> STATE = IllegalStateException.class;
   private static final Class<NoSuchElementException> NONE = NoSuchElementException.class;
-  private static final String SIXTY = "step;step;step;step;step;step;step;step;step;step;step;step;";
 
   private ScriptTest() {
   }
@@ -21,18 +20,12 @@ public final class ScriptTest {
     Checks.end();
   }
 
-  private static LiftGroup typed(String script) {
-    LiftGroup group = new LiftGroup();
-    Checks.type(group, script);
-    return group;
-  }
-
   private static void type() {
     LiftGroup group = new LiftGroup();
     for (int i = 0; i < 60; i++) {
       Checks.same("length", group.type((char) (i % 2 == 0 ? 32 : 126)), i + 1);
     }
-    LiftGroup again = typed("step");
+    LiftGroup again = Scenes.typed("step");
     again.runScript();
     Checks.same("empty afterwards", again.type('s'), 1);
   }
@@ -40,10 +33,10 @@ public final class ScriptTest {
   private static void typeRefused() {
     for (int code : new int[] {0, 31, 127, 128, 255, 256, 32 + 256, 65535}) {
       Checks.refused("code " + code, ARGUMENT, LiftGroup::new, g -> g.type((char) code));
-      Checks.refused("full, code " + code, ARGUMENT, () -> typed(SIXTY), g -> g.type((char) code));
+      Checks.refused("full, code " + code, ARGUMENT, () -> Scenes.typed(Scenes.SIXTY), g -> g.type((char) code));
     }
-    Checks.refused("full", STATE, () -> typed(SIXTY), g -> g.type('s'));
-    LiftGroup group = typed("ste");
+    Checks.refused("full", STATE, () -> Scenes.typed(Scenes.SIXTY), g -> g.type('s'));
+    LiftGroup group = Scenes.typed("ste");
     try {
       group.type((char) 31);
     } catch (IllegalArgumentException e) {
@@ -82,23 +75,23 @@ public final class ScriptTest {
   }
 
   private static void counts() {
-    Checks.same("twelve commands", typed(SIXTY.substring(0, 59)).runScript(), 12);
-    LiftGroup twelve = typed(SIXTY.substring(0, 59));
+    Checks.same("twelve commands", Scenes.typed(Scenes.SIXTY.substring(0, 59)).runScript(), 12);
+    LiftGroup twelve = Scenes.typed(Scenes.SIXTY.substring(0, 59));
     twelve.runScript();
     Checks.same("twelve steps", twelve.time(), 12);
-    Checks.same("one", typed("step").runScript(), 1);
-    LiftGroup thirty = typed("step 30;step 030;step 1;step 5");
+    Checks.same("one", Scenes.typed("step").runScript(), 1);
+    LiftGroup thirty = Scenes.typed("step 30;step 030;step 1;step 5");
     Checks.same("four", thirty.runScript(), 4);
     Checks.same("with numbers", thirty.time(), 66);
-    LiftGroup order = typed("stop 0;start 0;limit 1 100;limit 1 900");
+    LiftGroup order = Scenes.typed("stop 0;start 0;limit 1 100;limit 1 900");
     order.runScript();
     Checks.same("in order", order.capacity(1), 900);
     Checks.yes("in order", order.isInService(0));
   }
 
   private static void malformed(String script, int position) {
-    Checks.refused(script, ARGUMENT, () -> typed(script), g -> g.runScript());
-    LiftGroup group = typed(script);
+    Checks.refusedScript(script, ARGUMENT, () -> Scenes.typed(script));
+    LiftGroup group = Scenes.typed(script);
     try {
       group.runScript();
       Checks.report(script + " has the required form");
@@ -106,7 +99,7 @@ public final class ScriptTest {
       Checks.same("errorPosition of " + script, group.errorPosition(), position);
     }
     Checks.same("the buffer is empty after " + script, group.type('x'), 1);
-    Checks.refused("no failed command", NONE, () -> typed(script), g -> g.failedCommand());
+    Checks.refused("no failed command", NONE, () -> Scenes.typed(script), g -> g.failedCommand());
   }
 
   private static void errorPositions() {
@@ -165,15 +158,15 @@ public final class ScriptTest {
     malformed("hold 0 x", 7);
     malformed("hello", 1);
     malformed("step 3;hold 0 x", 14);
-    malformed(SIXTY, 60);
-    malformed(SIXTY.substring(0, 55) + "leave", 60);
+    malformed(Scenes.SIXTY, 60);
+    malformed(Scenes.SIXTY.substring(0, 55) + "leave", 60);
     malformed("leave 1/", 7);
     malformed("leave :", 6);
   }
 
   private static void failing(String script, int command) {
-    Checks.refused(script, STATE, () -> typed(script), g -> g.runScript());
-    LiftGroup group = typed(script);
+    Checks.refusedScript(script, STATE, () -> Scenes.typed(script));
+    LiftGroup group = Scenes.typed(script);
     try {
       group.runScript();
       Checks.report(script + " has no failed command");
@@ -181,7 +174,7 @@ public final class ScriptTest {
       Checks.same("failedCommand of " + script, group.failedCommand(), command);
     }
     Checks.same("the buffer is empty after " + script, group.type('x'), 1);
-    Checks.refused("no error position", NONE, () -> typed(script), g -> g.errorPosition());
+    Checks.refused("no error position", NONE, () -> Scenes.typed(script), g -> g.errorPosition());
     try {
       group.undo();
       Checks.report("a failed script is no change: " + script);
@@ -212,40 +205,28 @@ public final class ScriptTest {
     failing("step 0", 0);
     failing("step 31", 0);
     failing("step;step 5;stop 0;step 999", 3);
-    Checks.refused("a thirteenth passenger", STATE, ScriptTest::eleven, g -> g.runScript());
+    Checks.refusedScript("a thirteenth passenger", STATE, ScriptTest::eleven);
   }
 
   private static LiftGroup eleven() {
-    LiftGroup group = new LiftGroup();
-    for (int i = 0; i < 11; i++) {
-      group.addPassenger(1, 2, 10);
-    }
+    LiftGroup group = Scenes.waiting(11);
     Checks.type(group, "call 1 2 10;call 1 2 10");
     return group;
-  }
-
-  private static int run(LiftGroup group, String script) {
-    Checks.type(group, script);
-    try {
-      return group.runScript();
-    } catch (IllegalArgumentException | IllegalStateException e) {
-      return -1;
-    }
   }
 
   private static void positionsStay() {
     LiftGroup group = new LiftGroup();
     group.save();
-    run(group, "stop x");
-    run(group, "step;step 0");
+    Scenes.run(group, "stop x");
+    Scenes.run(group, "step;step 0");
     Checks.same("errorPosition", group.errorPosition(), 5);
     Checks.same("failedCommand", group.failedCommand(), 1);
-    run(group, "step");
+    Scenes.run(group, "step");
     Checks.same("a good script leaves it", group.errorPosition(), 5);
     Checks.same("a good script leaves it", group.failedCommand(), 1);
-    run(group, "stop 0;stopp");
+    Scenes.run(group, "stop 0;stopp");
     Checks.same("the latest one", group.errorPosition(), 11);
-    run(group, "stop 5");
+    Scenes.run(group, "stop 5");
     Checks.same("the latest one", group.failedCommand(), 0);
     group.type('s');
     group.undo();
@@ -257,7 +238,7 @@ public final class ScriptTest {
     Checks.same("both leave the buffer", group.type('t'), 2);
     Checks.refused("errorPosition", NONE, LiftGroup::new, g -> g.errorPosition());
     Checks.refused("failedCommand", NONE, LiftGroup::new, g -> g.failedCommand());
-    Checks.same("the whole buffer is run", run(group, "ep 4"), 1);
+    Checks.same("the whole buffer is run", Scenes.run(group, "ep 4"), 1);
     Checks.same("the whole buffer is run", group.time(), 4);
   }
 }

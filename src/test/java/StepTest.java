@@ -42,15 +42,8 @@ public final class StepTest {
     Checks.same("other cars have not moved", group.energy(1) + group.energy(2), 0);
   }
 
-  private static LiftGroup oneCar() {
-    LiftGroup group = new LiftGroup();
-    group.stopCar(1);
-    group.stopCar(2);
-    return group;
-  }
-
   private static void turning() {
-    LiftGroup group = oneCar();
+    LiftGroup group = Scenes.oneCar();
     group.addPassenger(5, 6, 80);
     group.advance(3);
     group.addPassenger(1, 0, 80);
@@ -74,30 +67,21 @@ public final class StepTest {
     Checks.same("idle without stops", group.floor(0), 3);
   }
 
-  private static LiftGroup idleAt(int floor) {
-    LiftGroup group = oneCar();
-    group.addPassenger(floor, 0, 10);
-    group.advance(floor);
-    group.removePassenger(0);
-    group.advance(1);
-    return group;
-  }
-
   private static void nearestStop() {
-    Checks.same("idle", idleAt(4).direction(0), 0);
-    LiftGroup equal = idleAt(4);
+    Checks.same("idle", Scenes.idleAt(4).direction(0), 0);
+    LiftGroup equal = Scenes.idleAt(4);
     equal.addPassenger(2, 0, 80);
     equal.addPassenger(6, 0, 80);
     Checks.same("nextStop of equally near ones", equal.nextStop(0), 6);
     equal.advance(1);
     Checks.same("up if equally near", equal.direction(0), 1);
-    LiftGroup below = idleAt(4);
+    LiftGroup below = Scenes.idleAt(4);
     below.addPassenger(7, 0, 80);
     below.addPassenger(2, 0, 80);
     Checks.same("nextStop of the nearest", below.nextStop(0), 2);
     below.advance(1);
     Checks.same("down to the nearest", below.direction(0), -1);
-    LiftGroup above = idleAt(4);
+    LiftGroup above = Scenes.idleAt(4);
     above.addPassenger(1, 0, 80);
     above.addPassenger(6, 0, 80);
     above.advance(1);
@@ -105,7 +89,7 @@ public final class StepTest {
   }
 
   private static void boardingByCapacity() {
-    LiftGroup group = oneCar();
+    LiftGroup group = Scenes.oneCar();
     group.setCapacity(0, 200);
     group.addPassenger(0, 5, 120);
     group.addPassenger(0, 5, 100);
@@ -149,7 +133,7 @@ public final class StepTest {
   }
 
   private static void lateComer() {
-    LiftGroup group = oneCar();
+    LiftGroup group = Scenes.oneCar();
     group.addPassenger(0, 5, 80);
     group.advance(1);
     group.addPassenger(0, 5, 80);
@@ -192,17 +176,17 @@ public final class StepTest {
     int[] weights = {99, 100, 150, 50, 1};
     int[] perFloor = {2, 3, 3, 2};
     for (int i = 0; i < perFloor.length; i++) {
-      LiftGroup group = oneCar();
+      LiftGroup group = Scenes.oneCar();
       group.addPassenger(0, 9, weights[i]);
       group.advance(4);
       Checks.same("energy with " + weights[i], group.energy(0), 1 + perFloor[i]);
     }
-    LiftGroup pair = oneCar();
+    LiftGroup pair = Scenes.oneCar();
     pair.addPassenger(0, 9, 150);
     pair.addPassenger(0, 9, 149);
     pair.advance(4);
     Checks.same("energy with 299", pair.energy(0), 1 + 4);
-    LiftGroup down = oneCar();
+    LiftGroup down = Scenes.oneCar();
     down.addPassenger(2, 0, 150);
     down.addPassenger(2, 0, 150);
     down.advance(6);
@@ -210,7 +194,7 @@ public final class StepTest {
   }
 
   private static void directionAtAStop() {
-    LiftGroup group = oneCar();
+    LiftGroup group = Scenes.oneCar();
     group.addPassenger(1, 0, 80);
     group.advance(2);
     Checks.same("opening keeps the direction", group.direction(0), 1);
@@ -218,7 +202,7 @@ public final class StepTest {
     Checks.same("open doors keep the direction", group.direction(0), 1);
     group.advance(1);
     Checks.same("then it turns", group.direction(0), -1);
-    LiftGroup idle = oneCar();
+    LiftGroup idle = Scenes.oneCar();
     idle.addPassenger(0, 3, 80);
     idle.advance(3);
     Checks.same("an idle car opens and stays idle", idle.direction(0), 0);
