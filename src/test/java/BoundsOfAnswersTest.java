@@ -389,33 +389,17 @@ public final class BoundsOfAnswersTest {
     Checks.refused("no room left", NONE, Scenes::heaviest, g -> g.bestCar(0, 10));
   }
 
-  /**
-   * One car that takes one passenger at a time from floor 0 to floor 3: index k boards at step 1 + 12 * k and arrives
-   * at step 7 + 12 * k. Some of the steps have passed already.
-   */
-  private static LiftGroup queue(int passed) {
-    LiftGroup group = Scenes.oneCar();
-    group.setCapacity(0, 100);
-    for (int i = 0; i < 12; i++) {
-      group.addPassenger(0, 3, 60);
-    }
-    if (passed > 0) {
-      group.advance(passed);
-    }
-    return group;
-  }
-
   private static LiftGroup queueInCar() {
-    return queue(1);
+    return Scenes.queue(1);
   }
 
   private static void stepsUntilBoarding() {
-    Checks.same("the next step", queue(0).stepsUntilBoarding(0), 1);
+    Checks.same("the next step", Scenes.queue(0).stepsUntilBoarding(0), 1);
     Checks.same("in a car now", queueInCar().stepsUntilBoarding(0), 0);
     // Number 9 boards at step 97; its index is 8 until number 1 leaves at step 7.
-    Checks.refused("91 steps", NONE, () -> queue(6), g -> g.stepsUntilBoarding(8));
-    Checks.same("90 steps", queue(7).stepsUntilBoarding(7), 90);
-    Checks.same("89 steps", queue(8).stepsUntilBoarding(7), 89);
+    Checks.refused("91 steps", NONE, () -> Scenes.queue(6), g -> g.stepsUntilBoarding(8));
+    Checks.same("90 steps", Scenes.queue(7).stepsUntilBoarding(7), 90);
+    Checks.same("89 steps", Scenes.queue(8).stepsUntilBoarding(7), 89);
     Checks.refused("no car", NONE, BoundsOfAnswersTest::nobodyComes, g -> g.stepsUntilBoarding(0));
     Checks.same("in a stopped car", stopped(queueInCar()).stepsUntilBoarding(0), 0);
     unchanged(LiftGroup::stepsUntilBoarding);
@@ -428,24 +412,24 @@ public final class BoundsOfAnswersTest {
   }
 
   private static void stepsUntilArrival() {
-    Checks.same("the next step", queue(6).stepsUntilArrival(0), 1);
+    Checks.same("the next step", Scenes.queue(6).stepsUntilArrival(0), 1);
     // Number 8 arrives at step 91.
-    Checks.refused("91 steps", NONE, () -> queue(0), g -> g.stepsUntilArrival(7));
-    Checks.same("90 steps", queue(1).stepsUntilArrival(7), 90);
-    Checks.same("89 steps", queue(2).stepsUntilArrival(7), 89);
+    Checks.refused("91 steps", NONE, () -> Scenes.queue(0), g -> g.stepsUntilArrival(7));
+    Checks.same("90 steps", Scenes.queue(1).stepsUntilArrival(7), 90);
+    Checks.same("89 steps", Scenes.queue(2).stepsUntilArrival(7), 89);
     Checks.refused("no car", NONE, BoundsOfAnswersTest::nobodyComes, g -> g.stepsUntilArrival(0));
     Checks.refused("in a stopped car", NONE, () -> stopped(queueInCar()), g -> g.stepsUntilArrival(0));
     unchanged(LiftGroup::stepsUntilArrival);
   }
 
   private static void tripsWithin() {
-    Checks.same("no steps", queue(6).tripsWithin(0), 0);
-    Checks.same("one step", queue(6).tripsWithin(1), 1);
-    Checks.same("a step before the trip", queue(5).tripsWithin(1), 0);
+    Checks.same("no steps", Scenes.queue(6).tripsWithin(0), 0);
+    Checks.same("one step", Scenes.queue(6).tripsWithin(1), 1);
+    Checks.same("a step before the trip", Scenes.queue(5).tripsWithin(1), 0);
     // The eighth trip is at step 91.
-    Checks.same("90 steps", queue(0).tripsWithin(90), 7);
-    Checks.same("90 steps", queue(1).tripsWithin(90), 8);
-    Checks.same("89 steps", queue(1).tripsWithin(89), 7);
+    Checks.same("90 steps", Scenes.queue(0).tripsWithin(90), 7);
+    Checks.same("90 steps", Scenes.queue(1).tripsWithin(90), 8);
+    Checks.same("89 steps", Scenes.queue(1).tripsWithin(89), 7);
     Checks.same("more than the log remembers", Scenes.full().tripsWithin(90), 12);
     for (int steps : new int[] {-1, 91, Integer.MIN_VALUE, Integer.MAX_VALUE}) {
       Checks.refusedAlways("tripsWithin " + steps, ARGUMENT, g -> g.tripsWithin(steps));

@@ -16,6 +16,8 @@ public final class BoundsOfPastTest {
     refusedCallsForgetNothing();
     numbersAfterUndo();
     fullLogAfterUndo();
+    fullLogAfterRestore();
+    movingCars();
     fullBuildingAfterUndo();
     whatUndoLeaves();
     save();
@@ -182,6 +184,59 @@ public final class BoundsOfPastTest {
     Checks.same("no trip again", first.tripCount(), 0);
     Checks.refused("no trip again", java.util.NoSuchElementException.class, () -> undone(Scenes.trips(1), 1),
         g -> g.tripNumber(0));
+  }
+
+  /** Ten trips of car 2, which waited five steps, then twelve of car 0, which waited one. */
+  private static void fullLogAfterRestore() {
+    LiftGroup group = Scenes.noCar();
+    for (int i = 0; i < 10; i++) {
+      group.addPassenger(0, 1, 10);
+    }
+    group.advance(4);
+    group.startCar(2);
+    Checks.same("ten trips", group.advance(5), 10);
+    group.stopCar(2);
+    group.startCar(0);
+    group.save();
+    String before = Checks.portrait(group);
+    for (int i = 0; i < 12; i++) {
+      group.addPassenger(0, 1, 10);
+    }
+    Checks.same("twelve trips forget them all", group.advance(5), 12);
+    Checks.same("car", group.tripCar(9), 0);
+    Checks.same("waiting time", group.tripWaiting(9), 1);
+    undone(group, 1);
+    Checks.same("undo brings them back", group.tripNumber(9), 1);
+    Checks.same("with their car", group.tripCar(9), 2);
+    Checks.same("and their waiting time", group.tripWaiting(9), 5);
+    Checks.same("and forgets the others", group.advance(5), 12);
+    group.restore();
+    Checks.same("restore brings them back", Checks.portrait(group), before);
+    Checks.same("with their car", group.tripCar(9), 2);
+    Checks.same("and their waiting time", group.tripWaiting(9), 5);
+  }
+
+  /** Cars in each direction, as undo and restore find them. */
+  private static void movingCars() {
+    LiftGroup group = Scenes.boarded(80);
+    group.stopCar(1);
+    group.addPassenger(9, 0, 10);
+    group.advance(5);
+    Checks.same("upwards", group.direction(0) + group.direction(2), 2);
+    group.save();
+    String upwards = Checks.portrait(group);
+    group.advance(10);
+    Checks.same("downwards", group.direction(2), -1);
+    String downwards = Checks.portrait(group);
+    group.advance(30);
+    Checks.same("idle", group.direction(0), 0);
+    group.undo();
+    Checks.same("undo, downwards", Checks.portrait(group), downwards);
+    group.undo();
+    Checks.same("undo, upwards", Checks.portrait(group), upwards);
+    group.advance(30);
+    group.restore();
+    Checks.same("restore, upwards", Checks.portrait(group), upwards);
   }
 
   private static void fullBuildingAfterUndo() {

@@ -1,4 +1,5 @@
 import java.util.NoSuchElementException;
+import java.util.function.Supplier;
 
 /** Promises 54 to 57 and the form of scripts, on both sides of every boundary that their sentences name. */
 public final class BoundsOfScriptsTest {
@@ -218,69 +219,93 @@ public final class BoundsOfScriptsTest {
     return group;
   }
 
-  private static void works(String script) {
+  /** The script does what the calls do. */
+  private static void works(String script, Checks.Call calls) {
     LiftGroup group = scene();
     Checks.same(script, Scenes.run(group, script), script.split(";").length);
     Checks.same("no failed command", Checks.orNone(group, LiftGroup::failedCommand), -1);
+    LiftGroup called = scene();
+    calls.on(called);
+    Checks.same(script, Checks.portrait(group), Checks.portrait(called));
+  }
+
+  private static LiftGroup sceneTyped(String script) {
+    LiftGroup group = scene();
+    Checks.type(group, script);
+    return group;
   }
 
   private static void fails(String script, int command) {
-    Checks.refusedScript(script, STATE, () -> {
-      LiftGroup group = scene();
-      Checks.type(group, script);
-      return group;
-    });
-    LiftGroup group = scene();
-    Checks.same(script, Scenes.run(group, script), -2);
-    Checks.same("failedCommand of " + script, group.failedCommand(), command);
-    Checks.same("no error position", Checks.orNone(group, LiftGroup::errorPosition), -1);
+    failing(() -> sceneTyped(script), script, command);
   }
 
   /** Each argument of each command on both sides of its bounds. */
   private static void arguments() {
-    for (String good : new String[] {"0 9 10", "9 0 150", "0 1 011", "8 9 149"}) {
-      works("leave 11;call " + good);
-      fails("call " + good, 0);
-      fails("leave 11;call " + good + ";call " + good, 2);
-    }
-    for (String bad : new String[] {"0 0 10", "9 9 150", "0 9 9", "0 9 151", "0 9 0", "0 9 999"}) {
-      fails("leave 11;call " + bad, 1);
-    }
-    works("leave 1");
-    works("leave 11");
+    argumentsOfCall();
+    works("leave 1", g -> g.removePassenger(1));
+    works("leave 11", g -> g.removePassenger(11));
+    works("leave 011", g -> g.removePassenger(11));
     fails("leave 0", 0);
     fails("leave 12", 0);
     fails("leave 999", 0);
     fails("leave 11;leave 11", 1);
-    works("hold 0 1");
-    works("hold 0 3");
+    works("hold 0 1", g -> g.holdDoors(0, 1));
+    works("hold 0 3", g -> g.holdDoors(0, 3));
     fails("hold 0 0", 0);
     fails("hold 0 4", 0);
     fails("hold 0 9", 0);
     fails("hold 1 1", 0);
     fails("hold 3 1", 0);
-    works("stop 0;stop 1;start 0;start 1;start 2");
+    works("stop 0;stop 1;start 2", g -> {
+      g.stopCar(0);
+      g.stopCar(1);
+      g.startCar(2);
+    });
     fails("stop 2", 0);
     fails("stop 3", 0);
     fails("stop 9", 0);
     fails("start 0", 0);
     fails("start 3", 0);
     fails("start 9", 0);
-    works("limit 0 150;limit 0 900;limit 2 100");
+    works("limit 0 150", g -> g.setCapacity(0, 150));
+    works("limit 1 900", g -> g.setCapacity(1, 900));
+    works("limit 2 100", g -> g.setCapacity(2, 100));
     fails("limit 0 149", 0);
     fails("limit 2 99", 0);
     fails("limit 2 901", 0);
     fails("limit 3 400", 0);
-    works("step 1;step 30");
+    works("step", g -> g.advance(1));
+    works("step 1", g -> g.advance(1));
+    works("step 30", g -> g.advance(30));
     fails("step 0", 0);
     fails("step 31", 0);
   }
 
+  private static void argumentsOfCall() {
+    int[][] arguments = {{0, 9, 10}, {9, 0, 150}, {0, 1, 11}, {8, 9, 149}};
+    for (int[] n : arguments) {
+      String call = "call " + n[0] + " " + n[1] + " " + n[2];
+      works("leave 11;" + call, g -> {
+        g.removePassenger(11);
+        g.addPassenger(n[0], n[1], n[2]);
+      });
+      fails(call, 0);
+      fails("leave 11;" + call + ";" + call, 2);
+    }
+    for (String bad : new String[] {"0 0 10", "9 9 150", "0 9 9", "0 9 151", "0 9 0", "0 9 999"}) {
+      fails("leave 11;call " + bad, 1);
+    }
+  }
+
   private static void failing(String script, int command) {
-    Checks.refusedScript(script, STATE, () -> Scenes.typed(script));
     Checks.refusedScript(script, STATE, () -> richTyped(script));
-    LiftGroup group = new LiftGroup();
-    Checks.same(script, Scenes.run(group, script), -2);
+    failing(() -> Scenes.typed(script), script, command);
+  }
+
+  private static void failing(Supplier<LiftGroup> build, String script, int command) {
+    Checks.refusedScript(script, STATE, build);
+    LiftGroup group = build.get();
+    Checks.same(script, Scenes.run(group, ""), -2);
     Checks.same("failedCommand of " + script, group.failedCommand(), command);
     Checks.same("no error position", Checks.orNone(group, LiftGroup::errorPosition), -1);
   }

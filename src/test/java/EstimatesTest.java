@@ -111,9 +111,9 @@ public final class EstimatesTest {
     Checks.same("second", group.stepsUntilBoarding(1), 5);
     group.advance(5);
     Checks.same("in a car now", group.stepsUntilBoarding(1), 0);
-    Checks.same("8 boardings before", queue(0).stepsUntilBoarding(7), 85);
-    Checks.same("within 90 steps", queue(7).stepsUntilBoarding(7), 90);
-    Checks.refused("not within 90 steps", NONE, () -> queue(6), g -> g.stepsUntilBoarding(8));
+    Checks.same("8 boardings before", Scenes.queue(0).stepsUntilBoarding(7), 85);
+    Checks.same("within 90 steps", Scenes.queue(7).stepsUntilBoarding(7), 90);
+    Checks.refused("not within 90 steps", NONE, () -> Scenes.queue(6), g -> g.stepsUntilBoarding(8));
   }
 
   private static void stepsUntilArrival() {
@@ -128,9 +128,9 @@ public final class EstimatesTest {
     group.advance(11);
     Checks.same("the next step", group.stepsUntilArrival(0), 1);
     Checks.same("that step", group.advance(1), 1);
-    Checks.same("6 arrivals before", queue(0).stepsUntilArrival(6), 79);
-    Checks.same("within 90 steps", queue(1).stepsUntilArrival(7), 90);
-    Checks.refused("not within 90 steps", NONE, () -> queue(0), g -> g.stepsUntilArrival(7));
+    Checks.same("6 arrivals before", Scenes.queue(0).stepsUntilArrival(6), 79);
+    Checks.same("within 90 steps", Scenes.queue(1).stepsUntilArrival(7), 90);
+    Checks.refused("not within 90 steps", NONE, () -> Scenes.queue(0), g -> g.stepsUntilArrival(7));
   }
 
   private static void never() {
@@ -143,22 +143,6 @@ public final class EstimatesTest {
   private static LiftGroup stuck() {
     LiftGroup group = Scenes.boarded(80);
     group.stopCar(0);
-    return group;
-  }
-
-  /**
-   * One car that takes one passenger at a time from floor 0 to floor 3: index k boards at step 1 + 12 * k and arrives
-   * at step 7 + 12 * k. Some of the steps have passed already.
-   */
-  private static LiftGroup queue(int passed) {
-    LiftGroup group = Scenes.oneCar();
-    group.setCapacity(0, 100);
-    for (int i = 0; i < 12; i++) {
-      group.addPassenger(0, 3, 60);
-    }
-    if (passed > 0) {
-      group.advance(passed);
-    }
     return group;
   }
 
@@ -175,9 +159,9 @@ public final class EstimatesTest {
     Checks.same("nothing has changed", group.time() + group.tripCount(), 0);
     group.advance(9);
     Checks.same("earlier trips do not count", group.tripsWithin(90), 0);
-    Checks.same("the seventh trip is at step 79", queue(0).tripsWithin(78), 6);
-    Checks.same("the seventh trip is at step 79", queue(0).tripsWithin(79), 7);
-    Checks.same("the last step counts", queue(1).tripsWithin(90), 8);
+    Checks.same("the seventh trip is at step 79", Scenes.queue(0).tripsWithin(78), 6);
+    Checks.same("the seventh trip is at step 79", Scenes.queue(0).tripsWithin(79), 7);
+    Checks.same("the last step counts", Scenes.queue(1).tripsWithin(90), 8);
   }
 
   private static void refusals() {

@@ -96,6 +96,22 @@ final class Scenes {
     return group;
   }
 
+  /**
+   * One car that takes one passenger at a time from floor 0 to floor 3: index k boards at step 1 + 12 * k and arrives
+   * at step 7 + 12 * k. Some of the steps have passed already.
+   */
+  static LiftGroup queue(int passed) {
+    LiftGroup group = oneCar();
+    group.setCapacity(0, 100);
+    for (int i = 0; i < 12; i++) {
+      group.addPassenger(0, 3, 60);
+    }
+    if (passed > 0) {
+      group.advance(passed);
+    }
+    return group;
+  }
+
   /** So many trips (at most 12) from floor 0 to floor 1, in car 0, in the order of the numbers and in 5 steps. */
   static LiftGroup trips(int count) {
     LiftGroup group = oneCar();
