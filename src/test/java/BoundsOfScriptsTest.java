@@ -261,6 +261,8 @@ public final class BoundsOfScriptsTest {
       g.stopCar(1);
       g.startCar(2);
     });
+    works("stop 1", g -> g.stopCar(1));
+    works("start 2", g -> g.startCar(2));
     fails("stop 2", 0);
     fails("stop 3", 0);
     fails("stop 9", 0);

@@ -73,7 +73,7 @@ final class Scenes {
     return group;
   }
 
-  /** Car 0 is on floor 0 with six passengers of 150 kilograms for floor 9: its capacity, the largest one, is used up. */
+  /** Car 0 is on floor 0 with six passengers of 150 kilograms for floor 9: the largest capacity is used up. */
   static LiftGroup heaviest() {
     LiftGroup group = oneCar();
     group.setCapacity(0, 900);
