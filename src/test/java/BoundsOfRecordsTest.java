@@ -118,6 +118,17 @@ public final class BoundsOfRecordsTest {
     group.advance(1);
     Checks.same("equal energies", group.totalEnergy(), 3);
     cars("one kilogram more", group, 2, 0, 1);
+    LiftGroup laden = Scenes.noCar();
+    laden.startCar(2);
+    laden.addPassenger(0, 5, 50);
+    laden.advance(4);
+    laden.stopCar(2);
+    laden.startCar(0);
+    laden.addPassenger(0, 5, 150);
+    laden.advance(1);
+    Checks.same("more energy", laden.energy(2) - laden.energy(0), 2);
+    Checks.same("but less load", laden.load(2) - laden.load(0), -100);
+    cars("energy comes first", laden, 2, 0, 1);
   }
 
   private static void noTrip(String what, int recency, int trips) {
@@ -291,6 +302,7 @@ public final class BoundsOfRecordsTest {
       Checks.same("empty", new LiftGroup().loadShare(car), 0.0f);
       Checks.same("an eighth", Scenes.allOpen().loadShare(car), 0.125f);
     }
+    Checks.same("twelve who wait for it are no load", Scenes.full().loadShare(0), 0.0f);
     Checks.same("full", Scenes.heaviest().loadShare(0), 1.0f);
     LiftGroup smallest = Scenes.boarded(100);
     smallest.setCapacity(0, 100);

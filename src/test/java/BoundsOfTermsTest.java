@@ -7,6 +7,10 @@ public final class BoundsOfTermsTest {
     doors();
     openingAgain();
     boarding();
+    nobodyBoards();
+    notAssignedAtOnce();
+    releasedAndStillWaiting();
+    stoppedOnItsWay();
     leavingBeforeBoarding();
     turningAtTheEnds();
     keepingTheDirection();
@@ -90,6 +94,73 @@ public final class BoundsOfTermsTest {
     Checks.same("load", between.load(0), 100);
     LiftGroup crowd = opened(120, 10, 10, 10, 10, 10, 10, 10, 10, 10, 10, 10, 10);
     Checks.same("all twelve fit exactly", crowd.passengersIn(0), 12);
+  }
+
+  private static void nobodyBoards() {
+    LiftGroup group = opened(100, 101);
+    Checks.same("a floor up and an opening, though nobody boards", group.energy(0), 3);
+    Checks.same("an opening all the same", group.doorOpenings(), 1);
+    Checks.same("the direction stays", group.direction(0), 1);
+    group.advance(1);
+    Checks.same("the doors stay open", group.doorSteps(0), 1);
+    group.advance(1);
+    Checks.same("and close", group.doorSteps(0), 0);
+    group.advance(1);
+    Checks.same("then it is idle", group.direction(0), 0);
+    Checks.same("where it is", group.floor(0), 1);
+  }
+
+  private static void notAssignedAtOnce() {
+    LiftGroup group = Scenes.oneCar();
+    group.addPassenger(1, 2, 101);
+    group.setCapacity(0, 100);
+    group.startCar(1);
+    group.advance(2);
+    Checks.same("car 0 has opened", group.doorSteps(0), 2);
+    Checks.same("not assigned to car 1 in the same step", Checks.carOrNone(group, 0), -1);
+    Checks.same("nor does car 1 move for it", group.floor(1), 0);
+    group.advance(1);
+    Checks.same("but in the next one", group.carOf(0), 1);
+    Checks.same("in which car 1 moves for it", group.floor(1), 1);
+    Checks.same("its waiting time goes on", group.waitingTime(0), 3);
+    group.advance(1);
+    Checks.yes("and it boards", group.isInCar(0));
+    Checks.same("its waiting time goes on", group.waitingTime(0), 4);
+  }
+
+  private static void releasedAndStillWaiting() {
+    LiftGroup group = new LiftGroup();
+    group.addPassenger(9, 0, 10);
+    group.advance(3);
+    Checks.same("one is released", group.stopCar(0), 1);
+    Checks.same("its waiting time stays", group.waitingTime(0), 3);
+    group.advance(1);
+    Checks.same("and goes on", group.waitingTime(0), 4);
+    Checks.same("assigned again", group.carOf(0), 1);
+  }
+
+  private static void stoppedOnItsWay() {
+    LiftGroup group = upwardsAt(4);
+    group.setCapacity(0, 300);
+    group.stopCar(0);
+    group.advance(30);
+    Checks.same("time passes without a car in service", group.time(), 34);
+    Checks.same("the car keeps its direction", group.direction(0), 1);
+    Checks.same("and its floor", group.floor(0), 4);
+    Checks.same("and its energy", group.energy(0), 8);
+    group.startCar(0);
+    Checks.same("also when it serves again", group.direction(0), 1);
+    Checks.same("with the same capacity", group.capacity(0), 300);
+    group.advance(1);
+    Checks.same("until it chooses", group.direction(0), 0);
+    LiftGroup open = Scenes.boarded(80);
+    open.stopCar(0);
+    open.advance(30);
+    Checks.same("its doors stay open", open.doorSteps(0), 2);
+    Checks.same("with its passenger", open.passengersIn(0), 1);
+    open.startCar(0);
+    open.advance(2);
+    Checks.same("and close when it serves again", open.doorSteps(0), 0);
   }
 
   private static void leavingBeforeBoarding() {

@@ -56,6 +56,9 @@ final class Checks {
     thrownBy(used, call);
     same(what + ": the script buffer", bufferLength(used), bufferLength(twin));
     same(what + ": history and snapshot", past(used), past(twin));
+    LiftGroup going = build.get();
+    thrownBy(going, call);
+    same(what + ": what comes next", next(going), next(build.get()));
   }
 
   /** The same in a new object, in one with something of everything, and in one with twelve passengers. */
@@ -75,6 +78,9 @@ final class Checks {
     thrownBy(used, LiftGroup::runScript);
     same(what + ": the script buffer", bufferLength(used), 0);
     same(what + ": history and snapshot", past(used), past(build.get()));
+    LiftGroup going = build.get();
+    thrownBy(going, LiftGroup::runScript);
+    same(what + ": what comes next", next(going), next(build.get()));
   }
 
   /** The name of the exception that the call throws. */
@@ -159,6 +165,20 @@ final class Checks {
       text.append("; restore ").append(group.restore()).append(portrait(group));
     } catch (IllegalStateException e) {
       text.append("; no snapshot");
+    }
+    return text.toString();
+  }
+
+  /** What steps and one more passenger do, whose number and place are not to be read before. */
+  static String next(LiftGroup group) {
+    StringBuilder text = new StringBuilder();
+    if (group.passengerCount() < 12) {
+      text.append(group.number(group.addPassenger(3, 8, 60)));
+    }
+    text.append("; ").append(group.advance(1)).append(portrait(group));
+    text.append("; ").append(group.advance(30)).append(portrait(group));
+    if (group.passengerCount() < 12) {
+      text.append("; ").append(group.number(group.addPassenger(3, 8, 60)));
     }
     return text.toString();
   }

@@ -156,4 +156,44 @@ final class Scenes {
     Checks.type(group, "step 1");
     return group;
   }
+
+  /**
+   * Every car has a passenger in it. Car 0 came down to floor 0 and its doors are open; car 1 came up to floor 2, its
+   * doors are open too, and it is out of service; car 2 goes up through floor 3. Indices 3 and 4 wait for cars 2 and
+   * 0; index 5 waits for no car, though there is room in car 0 by now. Beside that, as in rich(): two trips, a
+   * snapshot, an output text, a begun script, an error position and a failed command.
+   */
+  static LiftGroup crossing() {
+    LiftGroup group = new LiftGroup();
+    run(group, "stop x");
+    run(group, "step;step 0");
+    group.addPassenger(0, 1, 100);
+    group.addPassenger(0, 1, 50);
+    group.advance(9);
+    group.save();
+    group.stopCar(0);
+    group.stopCar(2);
+    group.addPassenger(2, 9, 70);
+    group.advance(3);
+    group.stopCar(1);
+    group.setCapacity(1, 300);
+    group.startCar(2);
+    group.addPassenger(0, 8, 120);
+    group.advance(5);
+    group.stopCar(2);
+    group.startCar(0);
+    group.addPassenger(0, 6, 90);
+    group.advance(2);
+    group.startCar(2);
+    group.addPassenger(6, 1, 80);
+    group.addPassenger(0, 3, 40);
+    group.setCapacity(0, 100);
+    group.setCapacity(2, 130);
+    group.addPassenger(4, 0, 150);
+    group.advance(1);
+    group.setCapacity(0, 400);
+    group.renderCar(1);
+    Checks.type(group, "step 1");
+    return group;
+  }
 }
