@@ -46,7 +46,7 @@ public final class LiftGroup {
   private static final int LIMIT = 5;
   private static final int STEPS = 6;
   private static final int ONE_STEP = 7;
-  private static final int FORMS = 8;
+  private static final int FORMS = ONE_STEP + 1;
 
   private final Building now = new Building();
   /** Scripts and predictions happen here first, so that they leave no trace when they must not. */

@@ -28,13 +28,56 @@ public final class FaceTest {
       Map.entry("rule 10, texts are not joined by +", "\"\\s*\\+|\\+\\s*\""),
       Map.entry("rule 13, no surroundings", "\\b(Thread|Random|System\\.(?!arraycopy)|Runtime|File)\\b"));
 
+  /** The types of constants that rule 5 allows, beside rows of numbers, of which there are none. */
+  private static final Set<Class<?>> CONSTANTS = Set.of(int.class, long.class, boolean.class, char.class, String.class);
+
   private FaceTest() {
   }
 
   public static void main(String[] args) throws IOException {
-    face(Files.readString(Path.of("../shared/DOC.md")));
-    text(Files.readString(Path.of("src/main/java/LiftGroup.java")));
+    String document = Files.readString(Path.of("../shared/DOC.md"));
+    String source = Files.readString(Path.of("src/main/java/LiftGroup.java"));
+    face(document);
+    signatures(document, source);
+    text(source);
+    shape(LiftGroup.class);
+    Checks.yes("rule 11, classes", LiftGroup.class.getDeclaredClasses().length < 12);
+    for (Class<?> inside : LiftGroup.class.getDeclaredClasses()) {
+      Checks.same("rule 11, no classes in " + inside, inside.getDeclaredClasses().length, 0);
+      shape(inside);
+    }
     Checks.end();
+  }
+
+  /** Each signature as the document writes it, with the names of its parameters, stands once in the source. */
+  private static void signatures(String document, String source) {
+    String code = source.replaceAll("\\s+", " ");
+    Matcher lines = Pattern.compile("^    (public .*\\(.*);$", Pattern.MULTILINE).matcher(document);
+    int count = 0;
+    while (lines.find()) {
+      String wanted = lines.group(1) + " {";
+      Checks.yes(wanted, code.contains(wanted) && code.indexOf(wanted) == code.lastIndexOf(wanted));
+      count++;
+    }
+    Checks.same("signatures in the source", count, 60);
+  }
+
+  /** What reflection shows of the rules 3, 5 and 11. */
+  private static void shape(Class<?> c) {
+    int fields = 0;
+    for (Field f : c.getDeclaredFields()) {
+      if (Modifier.isStatic(f.getModifiers())) {
+        Checks.yes("rule 5, a constant: " + f, Modifier.isFinal(f.getModifiers()) && CONSTANTS.contains(f.getType()));
+      } else {
+        fields++;
+        Checks.yes("rule 3: " + f, f.getType().isPrimitive() || f.getType().isArray()
+            || f.getType() == StringBuilder.class || f.getType().getEnclosingClass() == LiftGroup.class);
+      }
+    }
+    Checks.yes("rule 11, fields of " + c, fields <= 20);
+    for (Method m : c.getDeclaredMethods()) {
+      Checks.yes("rule 11, parameters of " + m, m.getParameterCount() <= 7);
+    }
   }
 
   private static void face(String document) {

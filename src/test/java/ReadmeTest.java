@@ -28,6 +28,7 @@ public final class ReadmeTest {
     Checks.same("all tests", commands.get(1), ".ci/run\n");
     Checks.yes("which can be run", Files.isExecutable(Path.of(".ci/run")));
     testsInTable(readme);
+    exceptionsInTable(readme);
     Path room = Files.createTempDirectory("readme");
     try {
       copy(Path.of("."), room.resolve("project"));
@@ -78,6 +79,20 @@ public final class ReadmeTest {
           .forEach(name -> there.add(name.replace(".java", "")));
     }
     Checks.same("the tests in the table", told.toString(), there.toString());
+  }
+
+  private static void exceptionsInTable(String readme) throws IOException {
+    Set<String> told = new TreeSet<>();
+    Matcher rows = Pattern.compile("(?m)^\\| `(\\w+Exception)` \\|").matcher(readme);
+    while (rows.find()) {
+      told.add(rows.group(1));
+    }
+    Set<String> due = new TreeSet<>();
+    Matcher promised = Pattern.compile("(?m)^Throws `(\\w+)`").matcher(Files.readString(Path.of("../shared/DOC.md")));
+    while (promised.find()) {
+      due.add(promised.group(1));
+    }
+    Checks.same("the exceptions in the table", told.toString(), due.toString());
   }
 
   private static String run(String commands, File directory) throws IOException, InterruptedException {
